@@ -11,7 +11,7 @@ public final class RackPlanner {
     private static final int FEEDS = 2;
     private static final int MAX_RACKS = 8;
     private static final int MAX_RACK_SLOTS = 20;
-    private static final int CELLS = 160;
+    private static final int CELLS = MAX_RACKS * MAX_RACK_SLOTS;
     private static final int MAX_LIMIT = 10000;
     private static final int MAX_FEED_LIMIT = 20000;
     private static final int MAX_MACHINES = 60;
@@ -304,7 +304,7 @@ public final class RackPlanner {
         return new Machine(nextNumber, slots, power, weight, cords);
     }
 
-    // ---- cells: the slots of all racks in one row, as many for each rack
+    // ---- cells: the slots of all racks one behind the other, MAX_RACK_SLOTS for each rack
 
     private static int cellAt(int rack, int slot) {
         return rack * MAX_RACK_SLOTS + slot;

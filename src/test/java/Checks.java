@@ -40,17 +40,24 @@ final class Checks {
         thrown(call, made, IndexOutOfBoundsException.class);
     }
 
-    /** The very class: an ArrayIndexOutOfBoundsException would be the machine's own. */
+    /** The very class, and thrown by the program's own code: the machine and the library never throw in it. */
     private void thrown(String call, Call made, Class<?> want) {
         try {
             made.run();
         } catch (RuntimeException got) {
             if (got.getClass() != want) {
                 report(call + " threw " + got.getClass().getName() + ", due is " + want.getName());
+            } else if (!thrownByPlanner(got)) {
+                report(call + " did not throw by the program's own code");
             }
             return;
         }
         report(call + " threw nothing, due is " + want.getName());
+    }
+
+    static boolean thrownByPlanner(RuntimeException thrown) {
+        StackTraceElement[] trace = thrown.getStackTrace();
+        return trace.length > 0 && trace[0].getClassName().startsWith("RackPlanner");
     }
 
     void report(String line) {

@@ -13,6 +13,7 @@ public final class MachinesTest {
         packInOrder();
         packRefused();
         packWithinLimits();
+        packAgain();
         machines();
         whereMachinesAre();
         isDark();
@@ -296,6 +297,29 @@ public final class MachinesTest {
         checks.due("pack() within the heat of a row, as if none was dark", q.pack(), 2);
         checkAt(q, 1, 0, 0);
         checkAt(q, 0, 1, 0);
+    }
+
+    /** Limits that are used up to the last: what one pack or roomFor tried weighs nothing in the next one. */
+    private static void packAgain() {
+        RackPlanner p = new RackPlanner();
+        p.addRack(0, 4, 100, 100);
+        p.addRack(0, 4, 100, 100);
+        p.place(1, 10, 5, 0);
+        p.place(3, 20, 6, 2);
+        p.place(2, 30, 7, 1);
+        p.setRow(0, 60, 18);
+        p.setFeed(0, 30);
+        p.setFeed(1, 50);
+        checks.due("pack()", p.pack(), 2);
+        checkAt(p, 1, 0, 0);
+        checkAt(p, 2, 1, 0);
+        checkAt(p, 0, 0, 3);
+        String before = Checks.stateOf(p);
+        checks.due("the state as roomFor has tried", Checks.stateOf(p), before);
+        checks.due("pack() again", p.pack(), 0);
+        checks.due("the state behind it", Checks.stateOf(p), before);
+        checks.due("pack() a third time", p.pack(), 0);
+        checks.due("the state behind that", Checks.stateOf(p), before);
     }
 
     /** Promise 12. */

@@ -100,6 +100,14 @@ public final class RoomTest {
         room(p, 1, 10, 0, 1, 16);
         room(p, 1, 101, 0, 1, 9);
         room(p, 1, 0, 0, 1, 29);
+        RackPlanner q = new RackPlanner();
+        q.addRack(1, 10, 10000, 10000);
+        q.addRack(1, 10, 10000, 10000);
+        q.setRow(1, 10000, 57);
+        q.place(6, 0, 20, 0);
+        q.place(6, 0, 7, 0);
+        room(q, 1, 0, 10, 0, 3);
+        room(q, 1, 0, 31, 0, 0);
     }
 
     private static void roomByFeedLimits() {
